@@ -12,7 +12,7 @@ public final class AgainstPlainTest {
     private static int wrong = 0;
 
     public static void main(String[] args) {
-        int runs = args.length > 0 ? Integer.parseInt(args[0]) : 1500;
+        int runs = args.length > 0 ? Integer.parseInt(args[0]) : 400;
         for (int seed = 1; seed <= runs && wrong < 5; seed++) run(seed);
         if (wrong != 0) System.exit(1);
         System.out.println("AgainstPlainTest: fine");
