@@ -359,7 +359,6 @@ public final class BlinkMoves {
         if (voices.parted) {
             return fail(PARTED);
         }
-        voices.keepTrace();
         return said;
     }
 
@@ -1244,18 +1243,18 @@ public final class BlinkMoves {
 
     /**
      * The BODIES. "from" is the kind at which the way up to a body begins; "own" is the kind of
-     * the one who speaks, at which every call without super begins anew.
+     * the one who speaks, at which every call without super begins anew. THE TRACE is of a voice
+     * that answers PARTED, too: PARTED ends the voice, so no body begins behind it.
      */
     private static final class Voices {
         private final Row trace = new Row(TRACE_MOST);
-        private final Row begun = new Row(TRACE_MOST);
         private boolean parted;
         private int own;
         private int k;
         private int m;
 
         int say(Person one, int number, int voice, int x) {
-            begun.clear();
+            trace.clear();
             parted = false;
             own = one.kind;
             k = number;
@@ -1272,24 +1271,19 @@ public final class BlinkMoves {
             }
         }
 
-        /** Kept apart from what began: a voice that answers an ERROR leaves THE TRACE as it is. */
-        void keepTrace() {
-            trace.beLike(begun);
-        }
-
         private int blinks(int from, int x) {
             switch (from) {
                 case CHILD:
-                    begun.add(70);
+                    trace.add(70);
                     return 9;
                 case LOVER:
-                    begun.add(50);
+                    trace.add(50);
                     return blinks(BANKER, x) * 3;
                 case BANKER:
-                    begun.add(20);
+                    trace.add(20);
                     return blinks(SEER, x) - 4;
                 default:
-                    begun.add(10);
+                    trace.add(10);
                     return x + k;
             }
         }
@@ -1297,16 +1291,16 @@ public final class BlinkMoves {
         private int moves(int from, int x) {
             switch (from) {
                 case CHILD:
-                    begun.add(71);
+                    trace.add(71);
                     return moves(SEER, x) + m;
                 case GREY:
-                    begun.add(60);
+                    trace.add(60);
                     return moves(DEAF, x + 1);
                 case DEAF:
-                    begun.add(30);
+                    trace.add(30);
                     return 0 - moves(SEER, x);
                 default:
-                    begun.add(11);
+                    trace.add(11);
                     return blinks(own, x) * 2;
             }
         }
@@ -1314,24 +1308,24 @@ public final class BlinkMoves {
         private int looks(int from, int x) {
             switch (from) {
                 case LOVER:
-                    begun.add(51);
+                    trace.add(51);
                     return looks(BANKER, x) ^ k;
                 case GOVERNOR:
-                    begun.add(40);
+                    trace.add(40);
                     return looks(SEER, x / 2);
                 default:
-                    begun.add(12);
+                    trace.add(12);
                     return moves(own, x) - m;
             }
         }
 
         private int parts(int from, int x) {
             if (from == BANKER || from == LOVER) {
-                begun.add(21);
+                trace.add(21);
                 int above = parts(SEER, x);
                 return parted ? 0 : above + moves(own, 1);
             }
-            begun.add(13);
+            trace.add(13);
             int divisor = m - k;
             parted = divisor == 0;
             return divisor == 0 ? 0 : x / divisor;

@@ -487,9 +487,11 @@ final class Plain {
             need(in(v, 0, 3), 1);
             began = new ArrayList<>();
             Seer s = people.get(p);
-            int said = v == 0 ? s.blinks(x) : v == 1 ? s.moves(x) : v == 2 ? s.looks(x) : s.parts(x);
-            trace = began.size() > 30 ? began.subList(0, 30) : began;
-            return said;
+            try {
+                return v == 0 ? s.blinks(x) : v == 1 ? s.moves(x) : v == 2 ? s.looks(x) : s.parts(x);
+            } finally {
+                trace = began.size() > 30 ? began.subList(0, 30) : began;
+            }
         });
     }
     int body(int i) { return call(() -> { need(in(i, 0, trace.size() - 1), 2); return trace.get(i); }); }

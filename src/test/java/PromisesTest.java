@@ -779,12 +779,28 @@ public final class PromisesTest {
         x.person(10, 1, 0);
         x.person(1, 1, 0);
         x.person(42, 1, 0);
-        due(x.voice(1, 1, 4), 10);
-        for (int p = 0; p < 3; p++) due(x.voice(p, 3, 5), PARTED);
+        partedBehind(x, 0, 21, 13);
+        partedBehind(x, 1, 13);
+        partedBehind(x, 2, 21, 13);
         due(x.told(6), 3);
+        due(x.voice(3, 3, 5), BEYOND);
         due(x.count(6), 2);
-        due(x.body(0), 11);
         due(x.voice(1, 0, 5), 6);
+        due(x.count(6), 1);
+        due(x.body(0), 10);
+        x.image();
+        partedBehind(x, 1, 13);
+        x.restore();
+        due(x.body(0), 13);
+    }
+
+    /** Longer bodies ahead, so that what they left would show. */
+    private static void partedBehind(BlinkMoves x, int person, int... bodies) {
+        x.voice(person, 2, 4);
+        due(x.voice(person, 3, 5), PARTED);
+        due(x.count(6), bodies.length);
+        for (int i = 0; i < bodies.length; i++) due(x.body(i), bodies[i]);
+        due(x.body(bodies.length), NONE);
     }
 
     private static void sheets() {
