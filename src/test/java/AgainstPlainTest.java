@@ -9,7 +9,10 @@ public final class AgainstPlainTest {
         "p", "p+o", "o*2", "l/2", "l%3+1", "l>4", "o=2", "p*(o>1)", "9", "0", "(p|o)&l", "p-1", "!o*p", "l-1",
         "(o=1)*5+(o>1)*9", "p*p-o", "0-1", "(l>5)*3+(o=3)*2"};
     private static final String SIGNS = "rstpol0123456789!()+-*/%<=>&|. \u00e9";
+    /** An object is used for at most 512 calls, and a text takes some seventy. */
+    private static final int CALLS_MOST = 512 - 80;
     private static int wrong = 0;
+    private static int calls;
 
     public static void main(String[] args) {
         int runs = args.length > 0 ? Integer.parseInt(args[0]) : 400;
@@ -22,12 +25,13 @@ public final class AgainstPlainTest {
         Random r = new Random(seed);
         BlinkMoves x = new BlinkMoves();
         Plain y = new Plain();
+        calls = 0;
         StringBuilder log = new StringBuilder();
         int wild = r.nextInt(4) == 0 ? 6 : 40;
         int people = r.nextInt(7);
         for (int i = 0; i < people; i++) step(x, y, 0, r, wild, log);
         for (int i = 0; i < 3; i++) step(x, y, 5, r, wild, log);
-        for (int i = people + 3; i < 500; i++) {
+        while (calls < CALLS_MOST) {
             if (!step(x, y, r.nextInt(42), r, wild, log)) {
                 System.out.println("run " + seed + ":\n" + log);
                 wrong++;
@@ -37,6 +41,7 @@ public final class AgainstPlainTest {
     }
 
     private static boolean due(StringBuilder log, String call, int got, int want) {
+        calls++;
         log.append(call).append(" -> ").append(got).append(got != want ? ", due " + want : "").append('\n');
         return got == want;
     }
