@@ -1019,6 +1019,10 @@ public final class BoundsOfPromisesTest extends Bounds {
                 x.tell(0);
             }
             due(x.check(), 0);
+            for (int d = 0; d < doings - 1; d++) {
+                x.tell(0);
+            }
+            due(x.check(), 0);
             for (int d = 0; d <= doings; d++) {
                 x.tell(0);
             }

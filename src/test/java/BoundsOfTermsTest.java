@@ -262,6 +262,8 @@ public final class BoundsOfTermsTest extends Bounds {
         x.person(km, 1, 0);
         x.doing(0, 0, 0);
         due(x.doingIs(0, 3), want);
+        Scenes.text(x, 1, "p+1");
+        due(x.doingIs(0, 3), want + 1);
     }
 
     private static void shut() {
@@ -462,6 +464,8 @@ public final class BoundsOfTermsTest extends Bounds {
         due(gives(1, "2&1=1", 0, 0, 0), 1);
         due(gives(1, "2=1+1", 0, 0, 0), 1);
         due(gives(1, "1+2*3", 0, 0, 0), 7);
+        due(gives(1, "p+o*l", 1, 2, 3), 7);
+        due(gives(1, "l*o+p", 1, 2, 3), 7);
         due(gives(1, "9-4-3", 0, 0, 0), 2);
         due(gives(1, "9-(4-3)", 0, 0, 0), 8);
         due(gives(1, "8/4/2", 0, 0, 0), 1);
@@ -500,14 +504,14 @@ public final class BoundsOfTermsTest extends Bounds {
         sentence("| & < = > ! are 1 or 0, what is not 0 being true");
         int[] some = {MIN, -1, 0, 1, 2, MAX};
         for (int a : some) {
-            due(gives(1, "!p", a, 0, 0), a == 0 ? 1 : 0);
-            due(gives(1, "!!p", a, 0, 0), a == 0 ? 0 : 1);
+            due(gives(1, "5+!p", a, 0, 0), a == 0 ? 6 : 5);
+            due(gives(1, "5+!!p", a, 0, 0), a == 0 ? 5 : 6);
             for (int b : some) {
-                due(gives(1, "p|o", a, b, 0), a == 0 && b == 0 ? 0 : 1);
-                due(gives(1, "p&o", a, b, 0), a == 0 || b == 0 ? 0 : 1);
-                due(gives(1, "p<o", a, b, 0), a < b ? 1 : 0);
-                due(gives(1, "p=o", a, b, 0), a == b ? 1 : 0);
-                due(gives(1, "p>o", a, b, 0), a > b ? 1 : 0);
+                due(gives(1, "5+(p|o)", a, b, 0), a == 0 && b == 0 ? 5 : 6);
+                due(gives(1, "5+(p&o)", a, b, 0), a == 0 || b == 0 ? 5 : 6);
+                due(gives(1, "5+(p<o)", a, b, 0), a < b ? 6 : 5);
+                due(gives(1, "5+(p=o)", a, b, 0), a == b ? 6 : 5);
+                due(gives(1, "5+(p>o)", a, b, 0), a > b ? 6 : 5);
             }
         }
     }
@@ -824,6 +828,7 @@ public final class BoundsOfTermsTest extends Bounds {
         due(says(0, 1, 3, MIN), MIN);
         due(says(0, 1, 3, MAX), -MAX);
         due(says(16, 5, 3, MAX), MAX + 4);
+        due(says(41, 1, 2, 0), -20);
     }
 
     /** What one of a kind and m (km) with the number k says to x. */
